@@ -329,7 +329,8 @@ public final class MovedRegisters {
 
     /**
      * The registers of all wires. A wire's values stand in one long, two bits each, register 0 lowest:
-     * while moves are made there may be 26 of them, 6 more than a legal wire has.
+     * while moves are made there may be 26 of them, 6 more than a legal wire has. Bits beyond a wire's
+     * length mean nothing: a register that comes there is written over them.
      */
     private static final class Bank {
         private final int[] lengths = new int[WIRES];
@@ -350,7 +351,6 @@ public final class MovedRegisters {
 
         void fill(int wire, int registers) {
             lengths[wire] = 0;
-            values[wire] = 0;
             for (int made = 0; made < registers; made++) {
                 putAtSource(wire, UNKNOWN);
             }
@@ -370,9 +370,7 @@ public final class MovedRegisters {
 
         int takeAtSource(int wire) {
             lengths[wire]--;
-            int value = read(wire, lengths[wire]);
-            write(wire, lengths[wire], 0);
-            return value;
+            return read(wire, lengths[wire]);
         }
 
         void putAtSource(int wire, int value) {

@@ -317,8 +317,8 @@ public final class PromisesTest {
         x.wire(1, 5, 0, 4);
         x.wire(4, 5, 1, 0);
         x.wire(5, -1, 0, 0);
+        due.same("11: the slower of two ways of one weight", 28, () -> x.delay(1, 4));
         due.same("10: two ways of one weight", 2, () -> x.weight(1, 4));
-        due.same("11: the slower of them", 28, () -> x.delay(1, 4));
         due.same("10: the lighter way, although it is longer", 2, () -> x.weight(1, 5));
         due.same("11: the lighter way, although it is longer", 78, () -> x.delay(1, 5));
         due.same("10: the same gate", 0, () -> x.weight(4, 4));
@@ -354,6 +354,11 @@ public final class PromisesTest {
         due.same("12: the circuit is as it was", 2, () -> x.registers(-1, 0));
         due.same("12: a ring keeps its one register", 78, ring(1)::least);
         due.same("12: a ring with four", 22, ring(4)::least);
+        for (int delay = 1; delay <= 50; delay++) {
+            MovedRegisters two = chain(delay, 1);
+            two.wire(2, -1, 0, 1);
+            due.same("12: the greater delay of two", delay, two::least);
+        }
         x.gate(SAME, 0);
         due.same("12: not sound", BAD_STATE, x::least);
     }
@@ -397,6 +402,8 @@ public final class PromisesTest {
         due.same("13: another source", 10, x::shared);
         x.gate(SAME, 0);
         due.same("13: not sound", BAD_STATE, x::shared);
+        MovedRegisters one = oneGate(SAME, 3, 1);
+        due.same("13: at the first pin of all", 4, one::shared);
     }
 
     /** Promise 14. */
@@ -545,6 +552,22 @@ public final class PromisesTest {
         due.same("14: registers", "2 1 1 1 1 1 1 0", () -> lengths(row));
         MovedRegisters longer = withEightInFront(8);
         due.same("14: -7 is no label", 0, () -> longer.retime(1));
+        lowestLabelAtTheLastGate();
+    }
+
+    /** The row of eight again, numbered from its end on. */
+    private void lowestLabelAtTheLastGate() {
+        MovedRegisters x = new MovedRegisters();
+        for (int number = 1; number <= 8; number++) {
+            x.gate(SAME, 1);
+            x.wire(number, number == 1 ? -1 : number - 1, 0, number == 1 ? 4 : 0);
+        }
+        x.wire(-1, 8, 0, 4);
+        due.same("14: gathered", 2, () -> x.retime(8));
+        due.same("14: eight in front", 8, () -> x.registers(8, 0));
+        due.same("14: -7 is no label of the last gate", 0, () -> x.retime(1));
+        due.same("14: -3 is one", 2, () -> x.retime(2));
+        due.same("14: labels", "0 0 -1 -1 -2 -2 -3 -3", () -> labels(x));
     }
 
     /** MOVES over each kind of gate. */
