@@ -1,21 +1,11 @@
 /** Each promise of the document: ordinary inputs, the edges that it names, and wrong inputs. */
-public final class PromisesTest {
-    private static final int SAME = 0;
-    private static final int NOT = 1;
-    private static final int AND = 2;
-    private static final int OR = 3;
-    private static final int ODD = 4;
-
-    private static final String NO_ELEMENT = "throws.NoSuchElementException";
-    private static final String BAD_ARGUMENT = "throws.IllegalArgumentException";
-    private static final String BAD_STATE = "throws.IllegalStateException";
-    private static final String FULL = "throws.UnsupportedOperationException";
-    private static final String DONE = "done";
-
+public final class PromisesTest extends Bench {
     /** Beside the numbers of gates and ports, ones from which nothing may be reckoned without a look. */
     private static final int[] NO_ENDS = {0, -4, 13, Integer.MIN_VALUE, Integer.MAX_VALUE};
 
-    private final Due due = new Due("PromisesTest");
+    private PromisesTest() {
+        super("PromisesTest");
+    }
 
     public static void main(String[] args) {
         PromisesTest test = new PromisesTest();
@@ -46,7 +36,6 @@ public final class PromisesTest {
         test.tickWrong();
         test.runBeginsAnew();
         test.restart();
-        test.throwingChangesNothing();
         test.due.end();
     }
 
@@ -258,17 +247,6 @@ public final class PromisesTest {
         due.same("8: a ring with one", true, ring(1)::sound);
     }
 
-    private static MovedRegisters ring(int registers) {
-        MovedRegisters x = new MovedRegisters();
-        for (int number = 1; number <= 12; number++) {
-            x.gate(NOT, number);
-        }
-        for (int number = 1; number <= 12; number++) {
-            x.wire(number, number % 12 + 1, 0, number == 7 ? registers : 0);
-        }
-        return x;
-    }
-
     /** Promise 9. */
     private void period() {
         MovedRegisters x = chain(2, 7, 50);
@@ -286,17 +264,6 @@ public final class PromisesTest {
         due.same("9: gates without delay", 0, chain(0, 0)::period);
         due.same("9: the longest there is", 600,
             chain(50, 50, 50, 50, 50, 50, 50, 50, 50, 50, 50, 50)::period);
-    }
-
-    /** From input -1 over SAME gates of these delays to output -1, without registers. */
-    private static MovedRegisters chain(int... delays) {
-        MovedRegisters x = new MovedRegisters();
-        for (int delay : delays) {
-            int number = x.gate(SAME, delay);
-            x.wire(number == 1 ? -1 : number - 1, number, 0, 0);
-            x.wire(number, -1, 0, 0);
-        }
-        return x;
     }
 
     /** Promises 10 and 11. */
@@ -376,9 +343,7 @@ public final class PromisesTest {
 
     /** A row of gates of delay 1 with eight registers in front, half of which were behind it. */
     private static MovedRegisters withEightInFront(int gates) {
-        int[] delays = new int[gates];
-        java.util.Arrays.fill(delays, 1);
-        MovedRegisters x = chain(delays);
+        MovedRegisters x = evenChain(gates, 1);
         x.wire(-1, 1, 0, 4);
         x.wire(gates, -1, 0, 4);
         x.retime(600);
@@ -606,17 +571,6 @@ public final class PromisesTest {
         due.same("14: forward over kind " + kind, want, () -> x.held(slow, 0, 0));
     }
 
-    private static MovedRegisters oneGate(int kind, int before, int behind) {
-        MovedRegisters x = new MovedRegisters();
-        x.gate(kind, 1);
-        x.wire(-1, 1, 0, before);
-        if (kind >= AND) {
-            x.wire(-2, 1, 1, before);
-        }
-        x.wire(1, -1, 0, behind);
-        return x;
-    }
-
     private static String pins(MovedRegisters x) {
         String first = all(x, 1, 0);
         String second = Due.outcome(() -> x.registers(1, 1));
@@ -812,66 +766,5 @@ public final class PromisesTest {
         x.gate(SAME, 0);
         due.same("17: not sound", DONE, () -> restart(x));
         due.same("17: the values stay", 1, () -> x.held(-1, 0, 0));
-    }
-
-    private void throwingChangesNothing() {
-        MovedRegisters x = chain(5, 5);
-        x.wire(-1, 1, 0, 2);
-        x.hold(1, 0, 1, 1);
-        String before = state(x);
-        Due.outcome(() -> x.gate(0, 51));
-        Due.outcome(() -> wire(x, -1, 1, 0, 5));
-        Due.outcome(() -> wire(x, -1, 1, 1, 0));
-        Due.outcome(() -> wire(x, 0, 1, 0, 0));
-        Due.outcome(() -> hold(x, 1, 0, 0, 3));
-        Due.outcome(() -> hold(x, 1, 0, 2, 0));
-        Due.outcome(() -> x.retime(601));
-        Due.outcome(() -> x.tick(3, 0, 0));
-        due.same("throwing changes nothing", before, () -> state(x));
-    }
-
-    private static String state(MovedRegisters x) {
-        return x.gates() + " " + labels(x) + " " + x.period() + " " + lengths(x) + " " + all(x, 1, 0);
-    }
-
-    private static Object wire(MovedRegisters x, int source, int sink, int pin, int registers) {
-        x.wire(source, sink, pin, registers);
-        return DONE;
-    }
-
-    private static Object hold(MovedRegisters x, int sink, int pin, int register, int value) {
-        x.hold(sink, pin, register, value);
-        return DONE;
-    }
-
-    private static Object restart(MovedRegisters x) {
-        x.restart();
-        return DONE;
-    }
-
-    /** The values of a wire's registers, from the sink on. */
-    private static String all(MovedRegisters x, int sink, int pin) {
-        StringBuilder text = new StringBuilder();
-        for (int register = 0; register < x.registers(sink, pin); register++) {
-            text.append(register == 0 ? "" : " ").append(x.held(sink, pin, register));
-        }
-        return text.toString();
-    }
-
-    private static String labels(MovedRegisters x) {
-        StringBuilder text = new StringBuilder();
-        for (int number = 1; number <= x.gates(); number++) {
-            text.append(number == 1 ? "" : " ").append(x.label(number));
-        }
-        return text.toString();
-    }
-
-    /** How many registers stand in front of each gate of a chain, and at output -1. */
-    private static String lengths(MovedRegisters x) {
-        StringBuilder text = new StringBuilder();
-        for (int number = 1; number <= x.gates(); number++) {
-            text.append(x.registers(number, 0)).append(' ');
-        }
-        return text.append(x.registers(-1, 0)).toString();
     }
 }

@@ -192,34 +192,13 @@ public final class ReferenceTest {
         String text = name + Arrays.toString(at);
         String want = Due.outcome(() -> onReference(name, at));
         String[] got = new String[1];
-        due.same(text, want, () -> got[0] = Due.outcome(() -> onProgram(name, at)));
+        due.same(text, want, () -> got[0] = Due.outcome(() -> Bench.call(program, name, at)));
         calls.append(text).append(" = ").append(got[0]).append('\n');
         if (due.hasWrong()) {
             System.out.println(calls);
         }
         if (name.equals("retime") && want.length() == 1) {
             answers[want.charAt(0) - '0']++;
-        }
-    }
-
-    private Object onProgram(String name, int[] at) {
-        switch (name) {
-            case "gate": return program.gate(at[0], at[1]);
-            case "wire": program.wire(at[0], at[1], at[2], at[3]); return "done";
-            case "hold": program.hold(at[0], at[1], at[2], at[3]); return "done";
-            case "held": return program.held(at[0], at[1], at[2]);
-            case "registers": return program.registers(at[0], at[1]);
-            case "gates": return program.gates();
-            case "sound": return program.sound();
-            case "period": return program.period();
-            case "weight": return program.weight(at[0], at[1]);
-            case "delay": return program.delay(at[0], at[1]);
-            case "least": return program.least();
-            case "shared": return program.shared();
-            case "retime": return program.retime(at[0]);
-            case "label": return program.label(at[0]);
-            case "tick": return program.tick(at[0], at[1], at[2]);
-            default: program.restart(); return "done";
         }
     }
 
