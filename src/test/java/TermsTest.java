@@ -38,6 +38,8 @@ public final class TermsTest extends Bench {
         test.conflictOnTheWay();
         test.conflictAtPinsOfOneGate();
         test.movesForwardNeedEveryPin();
+        test.movesWhateverTheNumbers();
+        test.movesOneWayAlone();
         test.beginsTheRunAnew();
         test.runChangesNoValues();
         test.labelsOfTheLatestRetime();
@@ -303,6 +305,21 @@ public final class TermsTest extends Bench {
             x.wire(3, -1, 0, 0);
             asks("10: straight or over gate 2", Math.min(weight, 1), x, "weight", 1, 3);
             asks("11: over gate 2 while it is no heavier", weight <= 1 ? 12 : 3, x, "delay", 1, 3);
+        }
+        for (int slow = 2; slow <= 3; slow++) {
+            MovedRegisters x = new MovedRegisters();
+            x.gate(SAME, 1);
+            x.gate(SAME, slow == 2 ? 20 : 10);
+            x.gate(SAME, slow == 3 ? 20 : 10);
+            x.gate(OR, 2);
+            x.wire(-1, 1, 0, 0);
+            x.wire(1, 2, 0, 0);
+            x.wire(1, 3, 0, 1);
+            x.wire(2, 4, 0, 1);
+            x.wire(3, 4, 1, 0);
+            x.wire(4, -1, 0, 0);
+            asks("10: either way", 1, x, "weight", 1, 4);
+            asks("11: over gate " + slow, 23, x, "delay", 1, 4);
         }
     }
 
@@ -604,6 +621,62 @@ public final class TermsTest extends Bench {
                 asks("6: between", both ? 1 : 0, x, "registers", 2, 0);
             }
         }
+    }
+
+    /** "in any order in which they can be made": gates that must wait for others, whichever has the lower number. */
+    private void movesWhateverTheNumbers() {
+        for (int i = 0; i < 256; i++) {
+            int[] places = {i % 4 + 1, i / 4 % 4 + 1, i / 16 % 4 + 1, i / 64 + 1};
+            if ((1 << places[0] | 1 << places[1] | 1 << places[2] | 1 << places[3]) == 30) {
+                moveThereAndBack(places);
+            }
+        }
+    }
+
+    /** Four gates NOT in a row, numbered as told; all registers are moved to its front, then apart. */
+    private void moveThereAndBack(int[] row) {
+        String told = "row " + java.util.Arrays.toString(row);
+        MovedRegisters x = new MovedRegisters();
+        for (int made = 0; made < 4; made++) {
+            x.gate(NOT, 1);
+        }
+        x.wire(-1, row[0], 0, 0);
+        for (int at = 1; at < 4; at++) {
+            x.wire(row[at - 1], row[at], 0, 0);
+        }
+        x.wire(row[3], -1, 0, 4);
+        holdAll(x, -1, 0, 0, 1, 1, 2);
+        asks(told, 2, x, "retime", 4);
+        due.same(told + ": labels", "4 4 4 4", () -> labels(x));
+        due.same(told + ": over four times NOT", "0 1 1 2", () -> all(x, row[0], 0));
+        asks(told, 2, x, "retime", 1);
+        String apart = all(x, row[0], 0) + "/" + all(x, row[1], 0) + "/" + all(x, row[2], 0) + "/" + all(x, row[3], 0);
+        due.same(told + ": one in front of each", "2/0/1/1", () -> apart);
+        for (int at = 0; at < 4; at++) {
+            asks(told + ": labels", at - 3, x, "label", row[at]);
+        }
+    }
+
+    /** "over each with l below 0 there are -l moves forward": one that waits for its turn is not moved back meanwhile. */
+    private void movesOneWayAlone() {
+        MovedRegisters x = new MovedRegisters();
+        for (int made = 0; made < 4; made++) {
+            x.gate(SAME, 1);
+        }
+        x.wire(-1, 2, 0, 2);
+        x.wire(2, 1, 0, 0);
+        x.wire(1, 3, 0, 1);
+        x.wire(3, 4, 0, 0);
+        x.wire(4, -1, 0, 0);
+        x.wire(1, -2, 0, 1);
+        holdAll(x, 2, 0, 1, 0);
+        holdAll(x, 3, 0, 0);
+        holdAll(x, -2, 0, 1);
+        asks("what differs behind gate 1 is no conflict", 2, x, "retime", 1);
+        due.same("labels", "-1 -2 -1 0", () -> labels(x));
+        due.same("one in front of each but gate 2", "0  1 0 ", () -> all(x, 1, 0) + " " + all(x, 2, 0) + " "
+            + all(x, 3, 0) + " " + all(x, 4, 0) + " " + all(x, -1, 0));
+        due.same("behind the one that was there", "1 1", () -> all(x, -2, 0));
     }
 
     /** "Every call of gate, wire and hold that does not throw, and a call of retime that answers above 0". */
