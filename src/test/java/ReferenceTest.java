@@ -1,4 +1,5 @@
 import java.util.Arrays;
+import java.util.Collections;
 import java.util.Random;
 
 /** Runs of calls drawn by lot (always the same ones), each answered by the program and by the reference. */
@@ -6,6 +7,11 @@ public final class ReferenceTest {
     private static final String[] NAMES = {"gate", "wire", "hold", "held", "registers", "gates", "sound", "period",
         "weight", "delay", "least", "shared", "retime", "label", "tick", "restart"};
     private static final int[] ARGUMENTS = {2, 4, 4, 3, 2, 0, 0, 0, 2, 2, 0, 0, 1, 1, 3, 0};
+
+    /** How far the runs have come, so that it is seen if they no longer reach the limits. */
+    private static int lowest = 0;
+    private static int highest = 0;
+    private static int longest = 0;
 
     private final Due due;
     private final Random lot;
@@ -32,7 +38,12 @@ public final class ReferenceTest {
         for (int seed = 0; seed < 1500 && !due.hasWrong(); seed++) {
             new ReferenceTest(due, seed, answers).anything(seed % 2 == 0 ? 150 : 500);
         }
+        for (int seed = 0; seed < 1500 && !due.hasWrong(); seed++) {
+            new ReferenceTest(due, seed, answers).thick(2 + seed % 11);
+        }
         System.out.println("retime answered 0, 1, 2: " + Arrays.toString(answers));
+        System.out.println("labels " + lowest + " .. " + highest + ", up to " + longest + " registers");
+        due.isTrue("the outermost labels were met", lowest == -6 && highest == 6 && longest == 20);
         due.isTrue("every answer of retime was met often", Arrays.stream(answers).min().getAsInt() > 500);
         due.end();
     }
@@ -69,6 +80,64 @@ public final class ReferenceTest {
                 holdAll(gates, lot.nextInt(3));
             }
         }
+    }
+
+    /**
+     * A row of gates, numbered by lot, onto which registers are heaped by wiring its ends again and moving:
+     * so labels come to -6 and 6, and wires to 20 registers.
+     */
+    private void thick(int gates) {
+        Integer[] row = new Integer[gates];
+        for (int at = 0; at < gates; at++) {
+            row[at] = at + 1;
+            call("gate", lot.nextInt(3) == 0 ? lot.nextInt(5) : 0, 1 + lot.nextInt(2));
+        }
+        Collections.shuffle(Arrays.asList(row), lot);
+        for (int at = 0; at < gates; at++) {
+            call("wire", at == 0 ? -1 : row[at - 1], row[at], 0, lot.nextInt(4) / 3);
+            call("wire", lot.nextInt(2) == 0 ? row[at] : -2, row[at], 1, 1 + lot.nextInt(4));
+        }
+        call("wire", row[gates - 1], -1, 0, 4);
+        int side = lot.nextInt(gates);
+        call("wire", row[side], -2, 0, lot.nextInt(5));
+        for (int round = 0; round < 16; round++) {
+            heap(row);
+            call("least");
+            call("retime", reference.sound() && lot.nextInt(3) > 0 ? slack() : 600);
+            look(gates);
+        }
+    }
+
+    private void heap(Integer[] row) {
+        int last = row.length - 1;
+        switch (lot.nextInt(5)) {
+            case 0: call("wire", -1, row[0], 0, 4); break;
+            case 1: call("wire", row[lot.nextInt(row.length)], -3, 0, lot.nextInt(5)); break;
+            case 2: call("wire", row[last], -1, 0, lot.nextInt(5)); break;
+            default: call("wire", row[last], -1, 0, 4); break;
+        }
+        for (int output = -3; output <= -1; output++) {
+            if (lot.nextInt(3) == 0 && length(output, 0) > 0) {
+                call("hold", output, 0, lot.nextInt(length(output, 0)), lot.nextInt(2));
+            }
+        }
+    }
+
+    private void look(int gates) {
+        for (int number = 1; number <= gates; number++) {
+            call("label", number);
+            compareHeld(number, 0, length(number, 0) - 1);
+            extremes(number);
+        }
+        for (int t = 0; t < 2; t++) {
+            call("tick", lot.nextInt(2), lot.nextInt(2), lot.nextInt(2));
+        }
+    }
+
+    private void extremes(int number) {
+        lowest = Math.min(lowest, reference.label(number));
+        highest = Math.max(highest, reference.label(number));
+        longest = Math.max(longest, length(number, 0));
     }
 
     private int slack() {

@@ -24,6 +24,7 @@ public final class TermsTest extends Bench {
         test.noPath();
         test.leastWeight();
         test.labelsUpToSix();
+        test.labelsAboveSixWouldBeNeeded();
         test.labelsDownToMinusSix();
         test.forwardDownToMinusSix();
         test.wiresUpToTwenty();
@@ -357,6 +358,32 @@ public final class TermsTest extends Bench {
     private static void oneMore(MovedRegisters x) {
         x.wire(-1, 1, 0, 1);
         x.wire(1, 2, 0, 0);
+    }
+
+    /** Where a label must be above 6 there is no labelling, as with one that must be below -6. */
+    private void labelsAboveSixWouldBeNeeded() {
+        MovedRegisters x = twentyBehind(7);
+        asks("12: seven gates apart", 5, x, "least");
+        asks("14: seven gates apart", 2, x, "retime", 5);
+        due.same("15: up to 6 at the last gate of the row", "6 0 0 1 2 3 4 5", () -> labels(x));
+        asks("6: fourteen are left", 14, x, "registers", -1, 0);
+        asks("12: eight not", 10, twentyBehind(8), "least");
+        asks("14: eight would need 7", 0, twentyBehind(8), "retime", 5);
+        asks("14: two together need less", 2, twentyBehind(8), "retime", 10);
+    }
+
+    /** A row of gates of delay 5, the last of which is gate 1, with no registers but 20 behind it. */
+    private static MovedRegisters twentyBehind(int gates) {
+        MovedRegisters x = withTwenty();
+        x.wire(-2, 2, 0, 0);
+        int last = -1;
+        for (int made = 1; made < gates; made++) {
+            int number = x.gate(SAME, 5);
+            x.wire(last, number, 0, 0);
+            last = number;
+        }
+        x.wire(last, 1, 0, 0);
+        return x;
     }
 
     private void labelsDownToMinusSix() {
