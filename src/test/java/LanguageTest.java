@@ -16,7 +16,10 @@ import java.util.regex.Pattern;
 public final class LanguageTest extends Bench {
     private static final Path PROGRAM = Path.of("src/main/java/MovedRegisters.java");
 
+    private static final int MOST_DEEP = 8;
+
     private final String text;
+    private final List<Written> written = new ArrayList<>();
 
     private LanguageTest() throws IOException {
         super("LanguageTest");
@@ -33,6 +36,7 @@ public final class LanguageTest extends Bench {
         test.exceptions();
         test.sizes();
         test.methodLengths();
+        test.callDepths();
         test.due.end();
     }
 
@@ -129,28 +133,60 @@ public final class LanguageTest extends Bench {
         }
     }
 
-    /** Rule 11: "Methods stay short (some sixty lines)": from one that begins to the brace at its own depth. */
+    /** Rule 11: "Methods stay short (some sixty lines)". */
     private void methodLengths() {
-        int begin = -1;
-        int methods = 0;
-        String ending = "";
-        String[] lines = text.split("\n");
-        Pattern heading = Pattern.compile("^( {4}| {8})\\w[^=;]*\\([^;]*$");
-        for (int at = 0; at < lines.length; at++) {
-            Matcher head = heading.matcher(lines[at]);
-            if (begin < 0 && head.find()) {
-                begin = at;
-                ending = head.group(1) + "}";
-            } else if (begin >= 0 && lines[at].equals(ending)) {
-                int length = at - begin + 1;
-                due.isTrue("rule 11: " + length + " lines:" + lines[begin], length <= 60);
-                methods++;
-                begin = -1;
+        for (Written method : methods()) {
+            int length = method.body.split("\n").length;
+            due.isTrue("rule 11: " + length + " lines: " + method.name, length <= 60);
+        }
+        long there = classes().stream().mapToLong(type -> type.getDeclaredMethods().length).sum();
+        due.isTrue("rule 11: all methods are looked at, and the constructor", methods().size() == there + 1);
+    }
+
+    /** Rules 8 and 11: no recursion here, so "calls .. go at most eight deep" is all there is to say. */
+    private void callDepths() {
+        for (Written method : methods()) {
+            int depth = depth(method.name, 1);
+            due.isTrue("rule 11: " + depth + " deep: " + method.name, depth <= MOST_DEEP);
+        }
+    }
+
+    /** Methods of one name are taken for one, so this tells too much rather than too little; recursion as endless. */
+    private int depth(String name, int level) {
+        int deepest = level;
+        for (Written method : methods()) {
+            if (level > MOST_DEEP || !method.name.equals(name)) {
+                continue;
+            }
+            for (Written other : methods()) {
+                if (Pattern.compile("\\b" + other.name + "\\(").matcher(method.body).find()) {
+                    deepest = Math.max(deepest, depth(other.name, level + 1));
+                }
             }
         }
-        int seen = methods;
-        long there = classes().stream().mapToLong(type -> type.getDeclaredMethods().length).sum();
-        due.isTrue("rule 11: all methods are looked at, and the constructor", seen == there + 1);
+        return deepest;
+    }
+
+    /** A method as it stands in the program: its name, and what comes behind its parameters. */
+    private static final class Written {
+        final String name;
+        final String body;
+
+        Written(String name, String body) {
+            this.name = name;
+            this.body = body;
+        }
+    }
+
+    /** From each line with which a method begins to the brace at its own depth. */
+    private List<Written> methods() {
+        if (written.isEmpty()) {
+            Matcher method = Pattern.compile("(?ms)^( {4}| {8})\\w[^=;{}(]*?(\\w+)\\([^;{}]*\\{\\n(.*?)^\\1\\}$").matcher(text);
+            while (method.find()) {
+                written.add(new Written(method.group(2), method.group(3)));
+            }
+        }
+        return written;
     }
 
     /** What a pattern finds in the program, each once. */
