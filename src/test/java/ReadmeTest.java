@@ -129,8 +129,7 @@ public final class ReadmeTest extends Bench {
     }
 
     private void paths() {
-        for (String path : new String[] {"../shared/DOC.md", "../shared/LANGUAGE.md", "../shared/tests",
-            "src/main/java/MovedRegisters.java", ".ci/run"}) {
+        for (String path : new String[] {"../shared/tests", "src/main/java/MovedRegisters.java", ".ci/run"}) {
             due.isTrue(path + " is named", text.contains(path));
             due.isTrue(path + " is there", Files.exists(Path.of(path)));
         }
